@@ -5,8 +5,8 @@ public final class PastTree {
     private static final int NONE = -1;
     private static final int MOST_PAGES = 256;
     private static final int MOST_ENTRIES = 16;
-    /** An object is promised 512 calls, and none makes more than one version. */
-    private static final int MOST_VERSIONS = 512;
+    /** More than the 512 calls that an object is promised, so that a test can come to where no page is free. */
+    private static final int MOST_VERSIONS = 800;
     /** Pages that are no root have three pages below them or more, so that 256 pages never stand this high. */
     private static final int MOST_LEVELS = 16;
     /** A page that is no root serves a version with no fewer entries alive. */
