@@ -421,7 +421,7 @@ public final class PastTree {
 
         /** Entries of a part of a row come. */
         void take(Row row, int low, int end, int version) {
-            for (int i = Math.max(low, 0); i < end && i < row.size && size < MOST_ENTRIES; i++) {
+            for (int i = low; i >= 0 && i < end && i < row.size && size < MOST_ENTRIES; i++) {
                 keys[size] = row.keys[i];
                 froms[size] = version;
                 tos[size] = NONE;
@@ -530,9 +530,6 @@ public final class PastTree {
             made = 1;
             roots = new int[MOST_VERSIONS + 1];
             path = new Page[MOST_LEVELS];
-            fence = NO_KEY;
-            goesOne = NONE;
-            goesTwo = NONE;
             coming = new Row(2);
             list = new Row(2 * MOST_ENTRIES + 2);
         }
@@ -791,7 +788,6 @@ public final class PastTree {
         /** Whether a block was written; if not, the power went. */
         private boolean writeBlock() {
             if (blocksToCut == 0) {
-                blocksToCut = NONE;
                 isDown = true;
                 return false;
             }

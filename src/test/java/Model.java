@@ -89,6 +89,7 @@ final class Model {
     private int written;
     private int cut = -1;
     private boolean isDown;
+    private boolean wasTogether;
 
     /** How often each rule was used, so that a test can say that its runs came to all of them. */
     final TreeMap<String, Integer> used = new TreeMap<>();
@@ -107,6 +108,7 @@ final class Model {
     // ---- the update
 
     private void play(Update u) {
+        wasTogether = false;
         int v = now.latest() + 1;
         List<Integer> path = new ArrayList<>();
         int p = now.roots.get(v - 1);
@@ -172,7 +174,12 @@ final class Model {
             TreeMap<Integer, Entry> brothers = now.sheets.get(path.get(at - 1)).alive(v - 1);
             Entry mine = brothers.values().stream().filter(e -> e.what == path.get(at)).findFirst().get();
             go.add(mine);
-            if (list.size() < 5) {
+            boolean alone = list.size() >= 5;
+            if (alone && wasTogether) {
+                use(kind + " alone, after one below it with its neighbour");
+            }
+            wasTogether = !alone;
+            if (!alone) {
                 boolean last = brothers.lastKey() == mine.key;
                 use(kind + (last ? " with the one before it" : " with the next one")
                         + (list.size() < 3 ? ", too few" : ", no room"));

@@ -1,6 +1,7 @@
 import java.util.Map;
 import java.util.Random;
 import java.util.TreeMap;
+import java.util.function.IntConsumer;
 
 /** Long runs of calls on a PastTree and on the model, which must answer alike (all promises). */
 public final class ModelTest {
@@ -32,12 +33,13 @@ public final class ModelTest {
             }
         }
         for (int seed = 0; seed < 12; seed++) {
-            dumped(seed, seed % 2 == 0);
-        }
-        for (int seed = 0; seed < 12; seed++) {
             tall(seed);
+            dumped(seed, seed % 2 == 0 ? this::growAndShrink : this::wander);
+            dumped(seed, this::churn);
+            dumped(seed, this::scatter);
         }
-        full();
+        full(0);
+        full(1);
         String[] due = {"root with one entry dies", "leaf as root remade into one", "leaf as root remade into two",
             "leaf remade into one", "leaf remade into two", "inner page remade into one",
             "inner page remade into two", "inner page as root remade into one", "inner page as root remade into two",
@@ -45,7 +47,8 @@ public final class ModelTest {
             "leaf with the next one, no room", "leaf with the one before it, no room",
             "inner page with the next one, too few", "inner page with the one before it, too few",
             "leaf keeps the key in the parent", "leaf has a lesser key in the parent",
-            "inner page has a lesser key in the parent", "spoiled blocks are free", "log full", "refused"};
+            "inner page has a lesser key in the parent", "inner page alone, after one below it with its neighbour",
+            "spoiled blocks are free", "log full", "refused"};
         for (String rule : due) {
             check.that("the runs came to: " + rule, used.containsKey(rule));
         }
@@ -91,17 +94,12 @@ public final class ModelTest {
     }
 
     /** The same updates on many objects, each of which then shows another part of its pages. */
-    private void dumped(int seed, boolean tall) {
+    private void dumped(int seed, IntConsumer updates) {
         int shown = 0;
         int rows = 1;
         for (int turn = 0; shown < rows && turn < 400; turn++) {
             begin("dump " + seed + "/" + turn, seed, 60 + 40 * seed);
-            if (tall) {
-                growAndShrink(seed, 400);
-            }
-            while (!tall && calls < 390 + 9 * seed) {
-                update(calls / 90 % 2 == 0 ? 85 : 20 + 3 * seed);
-            }
+            updates.accept(seed);
             rows = 0;
             for (int p = 0; p < model.pages(); p++) {
                 for (int i = 0; i <= model.page(p, 3); i++) {
@@ -119,9 +117,60 @@ public final class ModelTest {
         finish();
     }
 
+    private void wander(int seed) {
+        while (calls < 390 + 9 * seed) {
+            update(calls / 90 % 2 == 0 ? 85 : 20 + 3 * seed);
+        }
+    }
+
+    /** Keys come at one end of a part of the keys and go at the other, so that its leaves are put together often. */
+    private void churn(int seed) {
+        int keys = 110 + 4 * seed;
+        for (int i = 0; i < keys; i++) {
+            put(100 * i);
+        }
+        int low = 100 * (keys / 5);
+        int high = 100 * (keys / 5 + 3 + seed % 4 * 5);
+        int fresh = low;
+        while (calls < 480) {
+            fresh++;
+            put(fresh);
+            int last = model.next(model.version(), high);
+            int gone = model.count(model.version(), low, high) < 12 ? last : nextBelow(high);
+            both("remove(" + gone + ")", () -> tree.remove(gone), () -> model.remove(gone));
+        }
+    }
+
+    /** Runs of keys go here and come there, so that leaves all over three levels are put together. */
+    private void scatter(int seed) {
+        int keys = 120 + 4 * (seed % 4);
+        for (int i = 0; i < keys; i++) {
+            put(100 * i);
+        }
+        while (calls < 470) {
+            int from = random.nextInt(100 * keys);
+            for (int i = 0; i < 4 + seed / 4; i++) {
+                int key = keyOfLatest(from);
+                both("remove(" + key + ")", () -> tree.remove(key), () -> model.remove(key));
+            }
+            int to = random.nextInt(100 * keys);
+            for (int i = 0; i < 4 + seed / 4; i++) {
+                put(to + i);
+            }
+        }
+    }
+
+    private int nextBelow(int high) {
+        int key = high;
+        while (!model.has(model.version(), key)) {
+            key--;
+        }
+        return key;
+    }
+
     private void tall(int seed) {
         begin("tall " + seed, seed, 400);
-        growAndShrink(seed, 430);
+        growAndShrink(seed);
         while (calls < CALLS) {
             ask();
         }
@@ -129,12 +178,12 @@ public final class ModelTest {
     }
 
     /** Three levels of pages, of which one end or the middle is then taken away, so that inner pages grow empty. */
-    private void growAndShrink(int seed, int end) {
+    private void growAndShrink(int seed) {
         for (int i = 0; i < 200; i++) {
             put(seed % 3 == 0 ? i : seed % 3 == 1 ? -i : i * 77 % 401);
         }
         int from = seed / 3 % 2 == 0 ? Integer.MIN_VALUE : seed % 3 == 1 ? -120 : 60;
-        while (calls < end && model.count(model.version(), from, Integer.MAX_VALUE) > 0) {
+        while (calls < 400 && model.count(model.version(), from, Integer.MAX_VALUE) > 0) {
             int key = model.next(model.version(), from);
             both("remove(" + key + ")", () -> tree.remove(key), () -> model.remove(key));
             if (seed > 5 && random.nextInt(6) == 0) {
@@ -147,12 +196,15 @@ public final class ModelTest {
      * No 512 calls are known that come to the last pages (194 is the most that a search found), so that this run
      * goes on for longer: keys come below and go above, which remakes two leaves with each six updates.
      */
-    private void full() {
-        begin("full", 0, 10);
+    private void full(int pagesBefore) {
+        begin("full " + pagesBefore, 0, 10);
+        while (model.pages() <= pagesBefore) {
+            put(0);
+        }
         for (int i = 0; i < 11; i++) {
             put(-i);
         }
-        while (model.pages() == 1) {
+        while (model.pages() == 1 + pagesBefore) {
             put(0);
         }
         for (int i = 0; i < 400 && !model.used.containsKey("refused"); i++) {
