@@ -36,11 +36,6 @@ public final class DiskPromisesTest {
         }
     }
 
-    private static long none(Runnable call) {
-        call.run();
-        return 0;
-    }
-
     private static void disks(String when, PastTree x, int... due) {
         for (int what = 0; what < 5; what++) {
             int w = what;
@@ -154,23 +149,23 @@ public final class DiskPromisesTest {
 
     private static void cut() {
         PastTree x = puts(4);
-        check.call("20: below -1", () -> none(() -> x.cut(-2)), ARGUMENT);
-        check.call("20: least", () -> none(() -> x.cut(LOW)), ARGUMENT);
+        check.call("20: below -1", () -> Runs.none(() -> x.cut(-2)), ARGUMENT);
+        check.call("20: least", () -> Runs.none(() -> x.cut(LOW)), ARGUMENT);
         check.call("20: none is set by that", () -> x.sync(), 1);
         x.cut(0);
-        check.call("20: in place of one that is set", () -> none(() -> x.cut(1)), 0);
+        check.call("20: in place of one that is set", () -> Runs.none(() -> x.cut(1)), 0);
         x.put(1, 1L);
         check.call("20: one block is written", () -> x.sync(), 1);
-        check.call("20: -2 leaves the cut", () -> none(() -> x.cut(-2)), ARGUMENT);
+        check.call("20: -2 leaves the cut", () -> Runs.none(() -> x.cut(-2)), ARGUMENT);
         x.cut(-1);
         x.put(2, 1L);
         check.call("20: none with -1", () -> x.sync(), 1);
-        check.call("20: greatest", () -> none(() -> x.cut(HIGH)), 0);
+        check.call("20: greatest", () -> Runs.none(() -> x.cut(HIGH)), 0);
         x.cut(0);
         check.call("20: an update writes no block", () -> x.put(3, 1L), 7);
         x.down();
-        check.call("20: down", () -> none(() -> x.cut(0)), STATE);
-        check.call("20: down, and below -1", () -> none(() -> x.cut(-2)), STATE);
+        check.call("20: down", () -> Runs.none(() -> x.cut(0)), STATE);
+        check.call("20: down, and below -1", () -> Runs.none(() -> x.cut(-2)), STATE);
         x.start();
         x.put(4, 1L);
         check.call("20: no cut is set when the store comes up", () -> x.sync(), 1);
@@ -178,22 +173,22 @@ public final class DiskPromisesTest {
 
     private static void down() {
         PastTree x = puts(3);
-        check.call("21: down()", () -> none(x::down), 0);
-        check.call("21: it is so already", () -> none(x::down), STATE);
+        check.call("21: down()", () -> Runs.none(x::down), 0);
+        check.call("21: it is so already", () -> Runs.none(x::down), STATE);
         disks("down", x, 0, 0, 0, 0, 0);
         check.call("21: what waited is gone", () -> x.start(), 0);
-        check.call("21: again", () -> none(x::down), 0);
+        check.call("21: again", () -> Runs.none(x::down), 0);
     }
 
     private static void spoil() {
         PastTree x = puts(12);
-        check.call("22: the log is empty", () -> none(() -> x.spoil(0)), INDEX);
+        check.call("22: the log is empty", () -> Runs.none(() -> x.spoil(0)), INDEX);
         x.sync();
-        check.call("22: no such block", () -> none(() -> x.spoil(3)), INDEX);
-        check.call("22: below 0", () -> none(() -> x.spoil(-1)), INDEX);
-        check.call("22: greatest", () -> none(() -> x.spoil(HIGH)), INDEX);
-        check.call("22: the last block", () -> none(() -> x.spoil(2)), 0);
-        check.call("22: twice", () -> none(() -> x.spoil(2)), 0);
+        check.call("22: no such block", () -> Runs.none(() -> x.spoil(3)), INDEX);
+        check.call("22: below 0", () -> Runs.none(() -> x.spoil(-1)), INDEX);
+        check.call("22: greatest", () -> Runs.none(() -> x.spoil(HIGH)), INDEX);
+        check.call("22: the last block", () -> Runs.none(() -> x.spoil(2)), 0);
+        check.call("22: twice", () -> Runs.none(() -> x.spoil(2)), 0);
         check.call("22: nothing is lost while the store is up", () -> x.version(), 12);
         x.put(1, 1L);
         check.call("22: it is a block of the log still", () -> x.sync(), 1);
@@ -206,8 +201,8 @@ public final class DiskPromisesTest {
         x.down();
         check.call("22: what was free is not spoiled", () -> x.start(), 12);
         x.down();
-        check.call("22: while down", () -> none(() -> x.spoil(1)), 0);
-        check.call("22: while down, no such block", () -> none(() -> x.spoil(3)), INDEX);
+        check.call("22: while down", () -> Runs.none(() -> x.spoil(1)), 0);
+        check.call("22: while down, no such block", () -> Runs.none(() -> x.spoil(3)), INDEX);
         check.call("22: the first one that is spoiled", () -> x.start(), 4);
         x.spoil(0);
         x.checkpoint();

@@ -285,9 +285,9 @@ public final class ModelTest {
             both("sync()", () -> tree.sync(), () -> model.sync());
         } else if (dice < 40 + power) {
             int n = random.nextInt(10) - 2;
-            both("cut(" + n + ")", () -> none(() -> tree.cut(n)), () -> none(() -> model.cut(n)));
+            both("cut(" + n + ")", () -> Runs.none(() -> tree.cut(n)), () -> Runs.none(() -> model.cut(n)));
         } else if (dice < 40 + power + power / 3) {
-            both("down()", () -> none(tree::down), () -> none(model::down));
+            both("down()", () -> Runs.none(tree::down), () -> Runs.none(model::down));
         } else if (dice < 94) {
             int what = random.nextInt(7) - 1;
             both("disk(" + what + ")", () -> tree.disk(what), () -> model.disk(what));
@@ -295,15 +295,10 @@ public final class ModelTest {
             both("checkpoint()", () -> tree.checkpoint(), () -> model.checkpoint());
         } else if (dice < 98) {
             int b = random.nextInt(model.disk(0) + 2) - (random.nextInt(6) == 0 ? 1 : 0);
-            both("spoil(" + b + ")", () -> none(() -> tree.spoil(b)), () -> none(() -> model.spoil(b)));
+            both("spoil(" + b + ")", () -> Runs.none(() -> tree.spoil(b)), () -> Runs.none(() -> model.spoil(b)));
         } else {
             start();
         }
-    }
-
-    private static long none(Runnable call) {
-        call.run();
-        return 0;
     }
 
     private void ask() {

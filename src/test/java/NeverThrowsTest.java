@@ -60,17 +60,12 @@ public final class NeverThrowsTest {
             case 15 -> x.dense() ? 1 : 0;
             case 16 -> x.sync();
             case 17 -> x.checkpoint();
-            case 18 -> none(() -> x.cut(a));
-            case 19 -> a % 5 == 0 ? none(x::down) : 0;
-            case 20 -> none(() -> x.spoil(a));
+            case 18 -> Runs.none(() -> x.cut(a));
+            case 19 -> a % 5 == 0 ? Runs.none(x::down) : 0;
+            case 20 -> Runs.none(() -> x.spoil(a));
             case 21 -> x.start();
             default -> x.disk(a);
         });
-    }
-
-    private static long none(Runnable call) {
-        call.run();
-        return 0;
     }
 
     private static void answer(Check.Call call) {

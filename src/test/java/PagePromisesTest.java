@@ -20,10 +20,6 @@ public final class PagePromisesTest {
         check.end();
     }
 
-    private static long bit(boolean b) {
-        return b ? 1 : 0;
-    }
-
     /** Seventeen keys 0, 1, .. with the values 100, 101, ..: leaves 1 (nine) and 2 (eight) below page 3. */
     private static PastTree seventeen() {
         PastTree x = new PastTree();
@@ -158,11 +154,11 @@ public final class PagePromisesTest {
         for (int i = 0; i < 200; i++) {
             x.put(i * 7 % 200, 0L);
         }
-        check.call("17: after puts", () -> bit(x.dense()), 1);
+        check.call("17: after puts", () -> Runs.bit(x.dense()), 1);
         for (int i = 0; i < 200; i++) {
             x.remove(i * 3 % 200);
         }
-        check.call("17: after removes", () -> bit(x.dense()), 1);
+        check.call("17: after removes", () -> Runs.bit(x.dense()), 1);
         check.call("17: a root has no need of three", () -> x.alive(x.root(400), 400), 0);
         for (int p = 0; p < x.pages(); p++) {
             int end = x.page(p, 2) - 1;
@@ -172,7 +168,7 @@ public final class PagePromisesTest {
         }
         x.down();
         x.start();
-        check.call("17: come up with version 0", () -> bit(x.dense()), 1);
+        check.call("17: come up with version 0", () -> Runs.bit(x.dense()), 1);
     }
 
     private static void whileDown() {
@@ -184,6 +180,6 @@ public final class PagePromisesTest {
         check.call("14: down", () -> x.entry(9, 9, 9), STATE);
         check.call("15: down", () -> x.root(99), STATE);
         check.call("16: down", () -> x.bound(), STATE);
-        check.call("17: down", () -> bit(x.dense()), STATE);
+        check.call("17: down", () -> Runs.bit(x.dense()), STATE);
     }
 }

@@ -24,10 +24,6 @@ public final class TreePromisesTest {
         check.end();
     }
 
-    private static long bit(boolean b) {
-        return b ? 1 : 0;
-    }
-
     /** Keys 0, 10, 20, .. with the values 0, 1, 2, ..; each its own version. */
     private static PastTree tens(int keys) {
         PastTree x = new PastTree();
@@ -50,7 +46,7 @@ public final class TreePromisesTest {
         }
         check.call("1: alive(0, 0)", () -> x.alive(0, 0), 0);
         check.call("1: count(0, ..)", () -> x.count(0, LOW, HIGH), 0);
-        check.call("1: dense()", () -> bit(x.dense()), 1);
+        check.call("1: dense()", () -> Runs.bit(x.dense()), 1);
         check.call("1: start()", () -> x.start(), STATE);
         check.call("1: another object is not touched by the first", () -> tens(2).version() + new PastTree().version(), 2);
     }
@@ -158,16 +154,16 @@ public final class TreePromisesTest {
             for (int i = 0; i < 40; i += 3) {
                 int version = v;
                 int key = 10 * i;
-                check.call("5: has(" + v + ", " + key + ")", () -> bit(x.has(version, key)), v > i ? 1 : 0);
-                check.call("5: has(" + v + ", " + (key + 1) + ")", () -> bit(x.has(version, key + 1)), 0);
+                check.call("5: has(" + v + ", " + key + ")", () -> Runs.bit(x.has(version, key)), v > i ? 1 : 0);
+                check.call("5: has(" + v + ", " + (key + 1) + ")", () -> Runs.bit(x.has(version, key + 1)), 0);
             }
         }
-        check.call("5: below all", () -> bit(x.has(40, LOW)), 0);
-        check.call("5: above all", () -> bit(x.has(40, HIGH)), 0);
-        check.call("5: no such version", () -> bit(x.has(41, 0)), INDEX);
-        check.call("5: below 0", () -> bit(x.has(-1, 0)), INDEX);
-        check.call("5: least", () -> bit(x.has(LOW, 0)), INDEX);
-        check.call("5: greatest", () -> bit(x.has(HIGH, 0)), INDEX);
+        check.call("5: below all", () -> Runs.bit(x.has(40, LOW)), 0);
+        check.call("5: above all", () -> Runs.bit(x.has(40, HIGH)), 0);
+        check.call("5: no such version", () -> Runs.bit(x.has(41, 0)), INDEX);
+        check.call("5: below 0", () -> Runs.bit(x.has(-1, 0)), INDEX);
+        check.call("5: least", () -> Runs.bit(x.has(LOW, 0)), INDEX);
+        check.call("5: greatest", () -> Runs.bit(x.has(HIGH, 0)), INDEX);
     }
 
     private static void get() {
@@ -266,7 +262,7 @@ public final class TreePromisesTest {
         check.call("3: down", () -> x.remove(0), STATE);
         check.call("3: down, no such key", () -> x.remove(1), STATE);
         check.call("4: down", () -> x.version(), STATE);
-        check.call("5: down", () -> bit(x.has(9, 0)), STATE);
+        check.call("5: down", () -> Runs.bit(x.has(9, 0)), STATE);
         check.call("6: down", () -> x.get(9, 0), STATE);
         check.call("7: down", () -> x.next(9, 0), STATE);
         check.call("8: down", () -> x.count(9, 0, 0), STATE);
