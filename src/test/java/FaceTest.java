@@ -44,7 +44,26 @@ public final class FaceTest {
         check.same("its parameters", constructors[0].getParameterCount(), 0);
         int modifiers = PastTree.class.getModifiers();
         check.that("public final", Modifier.isPublic(modifiers) && Modifier.isFinal(modifiers));
+        for (Class<?> inside : PastTree.class.getDeclaredClasses()) {
+            holdClassInside(check, face, inside);
+        }
+        check.that("at most twelve classes", PastTree.class.getDeclaredClasses().length < 12);
         check.end();
+    }
+
+    /** Rules 1, 5 and 11 of LANGUAGE.md for a class inside. */
+    private static void holdClassInside(Check check, TreeMap<String, String> face, Class<?> inside) {
+        String name = inside.getSimpleName();
+        int modifiers = inside.getModifiers();
+        check.that(name + " is private and static", Modifier.isPrivate(modifiers) && Modifier.isStatic(modifiers));
+        check.that(name + " has some twenty fields at most", inside.getDeclaredFields().length <= 20);
+        for (Field field : inside.getDeclaredFields()) {
+            check.that(name + "." + field.getName() + " is not static", !Modifier.isStatic(field.getModifiers()));
+        }
+        for (Method method : inside.getDeclaredMethods()) {
+            check.that(name + "." + method.getName() + " has no public name", !isNameOf(face, method));
+            check.that(name + "." + method.getName() + " is not public", !Modifier.isPublic(method.getModifiers()));
+        }
     }
 
     private static boolean isNameOf(TreeMap<String, String> face, Method method) {

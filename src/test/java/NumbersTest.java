@@ -45,6 +45,7 @@ public final class NumbersTest {
         start();
         disk();
         fiveHundredAndTwelveCalls();
+        fiveHundredAndTwelveUpdates();
         check.end();
     }
 
@@ -484,5 +485,23 @@ public final class NumbersTest {
             is("call " + i, () -> x.put(key, key), i);
         }
         is("call 512", () -> x.count(511, LOW, HIGH), 511);
+    }
+
+    /** The most versions that an object is promised for, and the most records that can wait. */
+    private static void fiveHundredAndTwelveUpdates() {
+        PastTree x = new PastTree();
+        for (int i = 1; i <= 512; i++) {
+            int key = i;
+            is("update " + i, () -> x.put(key, key), i);
+        }
+        PastTree full = Runs.put(new PastTree(), 1, 511);
+        is("511 records are too many for the log", full::sync, "throws.UnsupportedOperationException");
+        PastTree kept = Runs.put(new PastTree(), 1, 509);
+        int made = kept.pages();
+        is("all pages are dirty", kept::checkpoint, made + 1);
+        is("all versions are kept", () -> kept.disk(2), 509);
+        PastTree lost = Runs.put(new PastTree(), 1, 510);
+        lost.down();
+        is("all versions are gone", lost::start, 0);
     }
 }
