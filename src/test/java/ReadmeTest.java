@@ -95,7 +95,7 @@ public final class ReadmeTest {
     /** What stands behind a colon explains the answer. A call without an answer needs no comment. */
     private static String dueOf(Method method, String comment) {
         if (comment == null) {
-            return method.getReturnType() == void.class ? "null" : "told";
+            return method.getReturnType() == void.class ? "null" : "not told";
         }
         int colon = comment.indexOf(':');
         return colon < 0 ? comment : comment.substring(0, colon);
@@ -117,8 +117,8 @@ public final class ReadmeTest {
         if (method == null) {
             return;
         }
-        int told = parameters.isEmpty() ? 0 : parameters.split(", ").length;
-        check.same(name + ": parameters", told, method.getParameterCount());
+        int count = parameters.isEmpty() ? 0 : parameters.split(", ").length;
+        check.same(name + ": parameters", count, method.getParameterCount());
         List<String> due = new ArrayList<>();
         for (Class<?> type : method.getExceptionTypes()) {
             due.add("`" + type.getSimpleName() + "`");
